@@ -522,6 +522,11 @@ public final class CartsDownHillPromises {
         due("what 2", x.bestPush(0, 1, 2), OUTSIDE);
         due("what -1", x.bestPush(0, 1, -1), OUTSIDE);
         due("cart 2", x.bestPush(2, 0, 2), UNKNOWN);
+        x = with("0,0", "w13,l7", "w14,l7");
+        // 20 yards: 15, then 8 and 1; 19 yards: 14, then 7 and it STANDS. By 14 it would take 21 yards.
+        due("20 yards", x.bestPush(0, 1, 0), 20);
+        due("TIME of 20 yards", x.bestPush(0, 1, 1), 2700);
+        due("not 21", x.bestPush(1, 1, 0), NONE);
         x = with("5,0", "w50");
         // 200 without pushing; a yard takes 60 and gains less.
         due("no push", x.bestPush(0, 1, 0), 0);
@@ -597,6 +602,11 @@ public final class CartsDownHillPromises {
         due("the greatest of like ones", x.close(0, 0), 99);
         // 99 and 98: 111 each.
         due("difference", x.close(0, 1), 22);
+        x = with("5b9,0", "w99,a9");
+        // 109 less 9 by the limit 10 is just bearable; less 8 by 11 is not.
+        due("the least limit", x.close(9, 0), 10);
+        due("one CART", x.close(9, 1), 0);
+        due("by none", x.close(10, 0), NONE);
         x = with("0,0", "w50", "w50,l1");
         due("not all DOWN", x.close(1, 0), NONE);
         due("not all DOWN", x.close(1, 1), NONE);
@@ -706,6 +716,8 @@ public final class CartsDownHillPromises {
             }
         }
         due("surely", x.wins(0, 2, 1, 3, 1, 3, 1, 0), 0);
+        due("slip 1", x.wins(0, 1, 2, 3, 4, 1, 0, 1), 2);
+        due("slip 99", x.wins(0, 1, 2, 3, 4, 99, 0, 1), 4);
         due("which 4", x.wins(0, 1, 2, 3, 4, 3, 4, 0), OUTSIDE);
         due("which -1", x.wins(0, 1, 2, 3, 4, 3, -1, 0), OUTSIDE);
         due("part 2", x.wins(0, 1, 2, 3, 4, 3, 0, 2), OUTSIDE);
@@ -738,7 +750,10 @@ public final class CartsDownHillPromises {
         due("a against c", x.plan(0, 1, 2, 3, 4, 3), 1);
         due("a against d", x.plan(1, 2, 0, 3, 4, 3), 2);
         due("a against b", x.plan(0, 2, 1, 3, 4, 3), 0);
+        due("slip 1: like ones", x.plan(0, 1, 2, 3, 4, 1), 0);
         due("none is DOWN", x.plan(0, 1, 2, 3, 0, 3), 0);
+        // The second one is quickest: 8 tenths, if it meets the fourth first, which is not DOWN; else 64 hundredths.
+        due("only the second is quick", with("0,0", "w50,l1", "w50", "w51,l1", "w50,l3").plan(0, 1, 2, 3, 4, 3), 1);
         due("by a great slip: against the one that is not DOWN", x.plan(0, 1, 3, 2, 4, 99), 2);
         due("one that is not DOWN first", x.plan(2, 1, 3, 0, 4, 3), 1);
         due("slip 0", x.plan(0, 1, 2, 3, 4, 0), OUTSIDE);
