@@ -12,6 +12,8 @@ public final class CartsDownHill {
     private static final int DOWN = 0, STANDS = 1, LEAVES = 2;
     private static final int HILL_SORT = 0, CART_SORT = 1;
     private static final int MOST_WORKS = 1000;
+    /** PACE is 1 at least, so a CELL takes 1000 at most. */
+    private static final int MOST_TIME = 1000 * MOST_CELLS;
     private static final String KIND_LETTERS = "lrtaus";
 
     private final Page page;
@@ -583,7 +585,7 @@ public final class CartsDownHill {
 
     /** The greatest TIME less the least one by a limit of WEIGHT; NONE: not all are DOWN. */
     private int apartBy(int limit, int swing) {
-        int least = Integer.MAX_VALUE;
+        int least = MOST_TIME;
         int greatest = 0;
         for (int i = 0; i < cartCount; i++) {
             int time = timeAt(i, swing, Math.min(limit, carts[i].weight));
