@@ -835,6 +835,9 @@ public final class CartsDownHillEdges {
         // 222, 200, and 73 and 46: 125 and 166.
         due("of three", x.close(0, 1), 91);
         due("of three: limit", x.close(0, 0), 99);
+        CartsDownHill slow = with("0,0,0,0,0,0,0,0,0,0,0,0", "w50", "w60");
+        due("the greatest TIME that there is", slow.run(0, 1, 2), 12000);
+        due("of two of that TIME", slow.close(1, 1), 0);
         says(21, "STATE: no HILL, no CARTS; OUTSIDE: swing, what");
         due("no HILL", with(null, "w50").close(0, 0), STATE);
         due("no CARTS", with("5,0").close(0, 0), STATE);
