@@ -671,6 +671,8 @@ public final class CartsDownHillEdges {
         brakesOf(with("5,0b1,0b1", "w50"), 0, 300, 0, 0, NONE, NONE);
         brakesOf(with("5,0b1,0b1,0b1", "w50"), 0, 400, 0, 0, 0, NONE);
         brakesOf(with("5,0b1,0b1,0b1,0b1", "w50"), 0, 500, 0, 0, 0, 0);
+        brakesOf(with("5,0,0,0,0,0,0,0,0,0,0,0", "w50"), 0, 1200, NONE, NONE, NONE, NONE);
+        brakesOf(with("5,0,0,0,0,0,0,0,0,0,0,0b1", "w50"), 0, 1200, 0, NONE, NONE, NONE);
         says(17, "the first four BENDS (a fifth one is not braked for)");
         // 101 would LEAVE in the fifth; 71 from CELL 3 on: three times 100, four times 125. From CELL 4 on: 775.
         brakesOf(with("0,0b1,0b1,0b1,0b1,0b9,0", "w50"), 101, 800, 0, 0, 0, 3);
@@ -1128,6 +1130,7 @@ public final class CartsDownHillEdges {
         says(28, "there is no BEND");
         staysOf(with("5,0", "w50"), 0, 9, 0, 1, 1);
         staysOf(with("0,0", "w50"), 0, 9, 0, 1, 1);
+        staysOf(with("5,0,0,0,0,0,0,0,0,0,0,0", "w50"), 0, 9, 0, 1, 1);
     }
 
     private static void strawOf(CartsDownHill x, int swing, int shake, int... want) {
