@@ -33,6 +33,8 @@ public final class CartsDownHillFace {
         constants();
         members();
         words();
+        sizes();
+        made();
         System.out.println(wrong == 0 ? "the face is as due" : wrong + " wrong");
         if (wrong != 0) {
             System.exit(1);
@@ -104,9 +106,17 @@ public final class CartsDownHillFace {
         }
     }
 
+    private static String source() throws Exception {
+        return Files.readString(Path.of("src/main/java/CartsDownHill.java"));
+    }
+
+    private static String withoutComments(String source) {
+        return source.replaceAll("(?s)/\\*.*?\\*/", " ").replaceAll("//[^\n]*", " ");
+    }
+
     private static void words() throws Exception {
-        String source = Files.readString(Path.of("src/main/java/CartsDownHill.java"));
-        String code = source.replaceAll("(?s)/\\*.*?\\*/", " ").replaceAll("//[^\n]*", " ");
+        String source = source();
+        String code = withoutComments(source);
         Matcher out = Pattern.compile("\\b(throw|throws|try|catch|synchronized|assert|package|float|double|Exact|"
             + "Object|Random|Thread|equals|hashCode|toString)\\b|->|::|\\w+Exact\\b").matcher(code);
         while (out.find()) {
@@ -118,5 +128,52 @@ public final class CartsDownHillFace {
         }
         boolean plain = source.chars().allMatch(c -> c == '\n' || (c >= 32 && c < 127));
         due("plain letters alone", plain, true);
+    }
+
+    /** Rule 11: some twelve classes, some twenty fields of a class, some sixty lines of a method. */
+    private static void sizes() throws Exception {
+        Class<?>[] inside = CartsDownHill.class.getDeclaredClasses();
+        due("at most twelve classes", inside.length < 12, true);
+        checkFields(CartsDownHill.class);
+        for (Class<?> one : inside) {
+            checkFields(one);
+        }
+        String[] lines = source().split("\n");
+        int methods = 0;
+        for (int from = 0; from < lines.length; from++) {
+            Matcher head = Pattern.compile("( {4}| {8})(public|private) [^=]*\\(.*\\) \\{").matcher(lines[from]);
+            if (head.matches()) {
+                methods++;
+                int to = from;
+                while (to < lines.length && !lines[to].equals(head.group(1) + "}")) {
+                    to++;
+                }
+                due("at most sixty lines: " + lines[from].trim(), to - from < 60, true);
+            }
+        }
+        due("methods were found", methods > 60, true);
+    }
+
+    private static void checkFields(Class<?> of) {
+        int fields = 0;
+        for (Field f : of.getDeclaredFields()) {
+            if (!Modifier.isStatic(f.getModifiers())) {
+                fields++;
+            }
+        }
+        due("at most twenty fields: " + of, fields <= 20, true);
+    }
+
+    /** All objects are made with the object itself: no call makes one, so no run of calls can fill the room. */
+    private static void made() throws Exception {
+        String code = withoutComments(source());
+        int from = code.indexOf("public CartsDownHill() {");
+        int to = code.indexOf("\n    }", from);
+        due("the constructor was found", from > 0 && to > from, true);
+        for (String line : (code.substring(0, from) + code.substring(to)).split("\n")) {
+            boolean making = Pattern.compile("\\bnew\\b|\\.clone\\(|copyOf|List|StringBuilder").matcher(line).find();
+            boolean withObject = line.matches("\\s+private final [\\w\\[\\]]+ \\w+ = new .*;");
+            due("made outside of a constructor: " + line.trim(), making && !withObject, false);
+        }
     }
 }
